@@ -12,7 +12,7 @@ final class ProbeTest {
         "...XXXX..", "XXX.....X", "...XXXX..", "...XXXX..", "...X...X.", "....X.X.."
     };
     // By kind, a place for each type; X: a thing of the kind is of the type.
-    private static final String[] IS = {
+    static final String[] IS = {
         "XX.XX....", "X.XX.X...", "XXXX.XX..", "X......X.", "XX......X", "XX......X",
         "X........", "X........", "X........", "X.XX.X..."
     };

@@ -496,7 +496,8 @@ final class RealFamily {
         return y -> {
             try {
                 MethodHandle tied = handle(type, member).bindTo(it);
-                return (Integer) (WITH_X.contains(MEMBERS[member]) ? tied.invoke(y) : tied.invoke());
+                boolean withX = WITH_X.contains(MEMBERS[member]);
+                return (Integer) (withX ? tied.invoke(y) : tied.invoke());
             } catch (Throwable e) {
                 throw new IllegalStateException(e);
             }
@@ -508,7 +509,8 @@ final class RealFamily {
     }
 
     boolean is(int slot, int type) {
-        return slot >= 0 && slot < 8 && type >= 0 && type < 9 && TYPES[type].isInstance(slots[slot]);
+        return slot >= 0 && slot < 8 && type >= 0 && type < 9
+                && TYPES[type].isInstance(slots[slot]);
     }
 
     boolean same(int a, int b) {

@@ -5,12 +5,6 @@ final class SlotsTest {
     private static final int NULL = FamilyProbes.NULL;
     private static final int[] OUT = {-1, 8, 9, 31, 32, 40, Integer.MIN_VALUE, Integer.MAX_VALUE};
 
-    // By kind, a place for each type; X: a thing of the kind is of the type.
-    private static final String[] IS = {
-        "XX.XX....", "X.XX.X...", "XXXX.XX..", "X......X.", "XX......X", "XX......X",
-        "X........", "X........", "X........", "X.XX.X..."
-    };
-
     public static void main(String[] args) {
         Due due = new Due();
         is(due);
@@ -27,7 +21,7 @@ final class SlotsTest {
             due.is("make(3, " + kind + ", 7)", x.make(3, kind, 7), FamilyProbes.VALUE);
             for (int type = 0; type < 9; type++) {
                 due.is("kind " + kind + ": is(3, " + type + ")", x.is(3, type),
-                        IS[kind].charAt(type) == 'X');
+                        ProbeTest.IS[kind].charAt(type) == 'X');
                 due.is("empty: is(4, " + type + ")", x.is(4, type), false);
             }
         }
