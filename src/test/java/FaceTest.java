@@ -22,14 +22,19 @@ final class FaceTest {
 
     public static void main(String[] args) throws IllegalAccessException {
         Due due = new Due();
+        due.test("public final class FamilyProbes");
         int modifiers = FamilyProbes.class.getModifiers();
         due.is("public final", modifiers, Modifier.PUBLIC | Modifier.FINAL);
+        due.test("The constants: How it went.");
         sameNames(due, CONSTANTS, constants(due));
+        due.test("The public face: the methods");
         sameNames(due, METHODS, methods(due));
+        due.test("public FamilyProbes();");
         Constructor<?>[] constructors = FamilyProbes.class.getDeclaredConstructors();
         due.is("constructors", constructors.length, 1);
         due.is("constructor's parameters", constructors[0].getParameterCount(), 0);
         due.is("constructor public", constructors[0].getModifiers(), Modifier.PUBLIC);
+        due.test("LANGUAGE.md, rule 1: the classes inside it");
         for (Class<?> inside : FamilyProbes.class.getDeclaredClasses()) {
             int of = inside.getModifiers();
             due.is(inside + " static", Modifier.isStatic(of), true);

@@ -3,149 +3,274 @@ final class MakeTest {
     private static final int REFUSED = FamilyProbes.REFUSED;
     private static final int VALUE = FamilyProbes.VALUE;
     private static final int NULL = FamilyProbes.NULL;
+    private static final int[] NUMBERS = {Edge.LEAST, -1, 0, 1, Edge.GREATEST};
 
     public static void main(String[] args) {
         Due due = new Due();
         newObject(due);
         objectsShareNothing(due);
-        makeOfEachKind(due);
-        makeReplaces(due);
-        repeaters(due);
-        makeRefuses(due);
-        drop(due);
+        slots(due);
+        kinds(due);
+        anyNumber(due);
+        putsNewThing(due);
+        numberOfBirds(due);
+        slotOfRepeated(due);
+        repeatedAsItIsNow(due);
+        repeatedIsNone(due);
+        deepestRepeater(due);
+        refusesOutOfRange(due);
+        refusedBeforeNull(due);
+        drops(due);
+        dropsNone(due);
+        dropLeavesTheThing(due);
+        dropRefuses(due);
         due.end();
     }
 
     private static void newObject(Due due) {
-        FamilyProbes x = new FamilyProbes();
-        due.is("new value()", x.value(), 0);
-        due.is("new events()", x.events(), 0);
-        due.is("new event(0)", x.event(0), REFUSED);
+        due.test("1: makes an object in the state that the terms give");
+        Run x = new Run();
+        due.is(x, x.value(), 0);
+        due.is(x, x.events(), 0);
+        due.is(x, x.event(0), REFUSED);
         for (int slot = 0; slot < 8; slot++) {
-            due.is("new is(" + slot + ", 0)", x.is(slot, 0), false);
-            due.is("new drop(" + slot + ")", x.drop(slot), NULL);
+            due.is(x, x.is(slot, Type.VOICE), false);
+            due.is(x, x.same(slot, 7 - slot), true);
+            due.is(x, x.drop(slot), NULL);
         }
-        for (int row = 0; row < 4; row++) {
-            for (int place = 0; place < 4; place++) {
-                x.make(0, 0, 1);
-                due.is("new load(" + row + ", " + place + ", 0)", x.load(row, place, 0), VALUE);
-                due.is("then drop(0)", x.drop(0), NULL);
-            }
+        for (int at = 0; at < 16; at++) {
+            x.make(0, Kind.WREN, 0);
+            due.is(x, x.load(at / 4, at % 4, 0), VALUE);
+            due.is(x, x.drop(0), NULL);
         }
-        x.make(0, 6, 0);
-        due.value(x, "first CALL of a SHADOW", x.probe(0, 0, 0, 0, 0), 1);
+        x.make(0, Kind.SHADOW, 0);
+        due.value(x, x.probe(0, Type.VOICE, Member.CALL, 0, 0), 1);
     }
 
     private static void objectsShareNothing(Due due) {
-        FamilyProbes x = new FamilyProbes();
-        x.make(0, 6, 0);
-        x.probe(0, 0, 1, 0, 0);
-        x.make(1, 0, 5);
-        x.store(0, 0, 1);
+        Run other = Run.with(Kind.SHADOW, 0);
+        other.probe(0, Type.VOICE, Member.TWICE, 0, 0);
+        other.make(1, Kind.HOUND, 5);
+        other.store(0, 0, 1);
         newObject(due);
-        due.is("events() of the other", x.events(), 1);
+        due.value(other, other.probe(0, Type.VOICE, Member.CALL, 0, 0), 3);
+        due.events(other, 20);
     }
 
-    private static void makeOfEachKind(Due due) {
+    private static void slots(Due due) {
+        due.test("2: into slot 0 .. 7: VALUE");
+        Run x = new Run();
+        due.is(x, x.make(-1, Kind.HOUND, 1), REFUSED);
+        for (int slot = 0; slot < 8; slot++) {
+            due.is(x, x.make(slot, Kind.HOUND, slot), VALUE);
+        }
+        due.is(x, x.make(8, Kind.HOUND, 1), REFUSED);
+        for (int slot = 0; slot < 8; slot++) {
+            due.value(x, x.probe(slot, Type.BASE, Member.SIZE, 0, 0), slot);
+        }
+    }
+
+    private static void kinds(Due due) {
+        due.test("2: a new thing of a kind 0 .. 9");
         int[] callOf10 = {13, 7, 14, 10, 12, 90, 14, 30, 13, 7};
-        int[] eventsNoted = {1, 1, 1, 0, 0, 0, 0, 0, 0, 2};
-        for (int kind = 0; kind < 10; kind++) {
-            FamilyProbes x = new FamilyProbes();
-            x.make(3, 0, 3);
-            int before = x.events();
-            due.is("make(1, " + kind + ", 3)", x.make(1, kind, 3), VALUE);
-            due.is("events noted for kind " + kind, x.events() - before, eventsNoted[kind]);
-            due.value(x, "CALL(10) of kind " + kind, x.probe(1, 0, 0, 10, 0), callOf10[kind]);
-            due.is("the other slots", x.same(0, 2), true);
+        for (int kind = 0; kind < Kind.ALL; kind++) {
+            Run x = new Run();
+            x.make(3, Kind.HOUND, 3);
+            due.is(x, x.make(1, kind, 3), VALUE);
+            due.value(x, x.probe(1, Type.VOICE, Member.CALL, 10, 0), callOf10[kind]);
+            due.is(x, x.same(0, 2), true);
         }
-        FamilyProbes x = new FamilyProbes();
-        due.is("make(7, 0, 5)", x.make(7, 0, 5), VALUE);
-        due.lastEvents(x, "a HOUND", 20);
-        due.is("make(7, 1, 5)", x.make(7, 1, 5), VALUE);
-        due.lastEvents(x, "a CAT", 20, 1);
-        due.is("make(7, 2, 5)", x.make(7, 2, 5), VALUE);
-        due.lastEvents(x, "a KITTEN", 20, 1, 35);
-        due.is("make(7, 9, 5)", x.make(7, 9, 5), VALUE);
-        due.lastEvents(x, "a STRAY", 20, 1, 35, 1, 6);
-        x.make(0, 9, Integer.MAX_VALUE);
-        due.lastEvents(x, "the EXTRA wraps", 1, Integer.MIN_VALUE);
-        x.make(0, 2, Integer.MAX_VALUE);
-        due.lastEvents(x, "the SEED wraps", Integer.MIN_VALUE + 29);
-        due.is("events() in all", x.events(), 8);
-        x.make(0, 4, -77);
-        due.value(x, "wren's n is not looked at", x.probe(0, 8, 0, 1, 0), 3);
-        x.make(0, 5, -77);
-        due.value(x, "owl's n is not looked at", x.probe(0, 8, 0, 1, 0), 9);
+        Run x = Run.with(Kind.HOUND, 1);
+        due.is(x, x.make(0, -1, 1), REFUSED);
+        due.is(x, x.make(0, 10, 1), REFUSED);
+        due.is(x, x.is(0, Type.HOUND), true);
     }
 
-    private static void makeReplaces(Due due) {
-        FamilyProbes x = new FamilyProbes();
-        x.make(0, 0, 5);
-        x.make(0, 1, 5);
-        due.is("a CAT in place of a HOUND: is(0, 5)", x.is(0, 5), true);
-        due.is("a CAT in place of a HOUND: is(0, 4)", x.is(0, 4), false);
+    private static void anyNumber(Due due) {
+        due.test("2: with a number n");
+        for (int n : NUMBERS) {
+            for (int kind : Kind.BASES) {
+                Run x = new Run();
+                due.is(x, x.make(0, kind, n), VALUE);
+                due.value(x, x.probe(0, Type.BASE, Member.SIZE, 0, 0), n);
+            }
+            Run x = Run.with(Kind.ECHO, n);
+            due.value(x, x.probe(0, Type.ECHO, Member.SIZE, 0, 0), n);
+            x.make(0, Kind.TIMES, n);
+            due.value(x, x.probe(0, Type.VOICE, Member.CALL, 1, 0), n);
+            x.make(0, Kind.SHADOW, n);
+            due.value(x, x.probe(0, Type.VOICE, Member.CALL, -1, 0), n);
+        }
     }
 
-    private static void repeaters(Due due) {
-        FamilyProbes x = new FamilyProbes();
-        x.make(0, 7, 3);
-        due.is("of an empty slot", x.make(0, 8, 1), NULL);
-        due.value(x, "nothing was put", x.probe(0, 0, 0, 2, 0), 6);
-        due.is("n & 7", x.make(1, 8, 8), VALUE);
-        x.make(0, 7, 100);
-        due.value(x, "as it was then", x.probe(1, 0, 0, 2, 0), 6);
+    private static void putsNewThing(Due due) {
+        due.test("2: Puts a new thing");
+        Run x = Run.with(Kind.CAT, 5);
+        x.store(0, 0, 0);
+        due.is(x, x.make(0, Kind.CAT, 5), VALUE);
+        x.load(0, 0, 1);
+        due.is(x, x.same(0, 1), false);
+        x.make(0, Kind.HOUND, 5);
+        due.is(x, x.is(0, Type.HOUND), true);
+        due.is(x, x.is(0, Type.CAT), false);
+    }
+
+    private static void numberOfBirds(Due due) {
+        due.test("2: (not looked at for the BIRDS)");
+        for (int n : NUMBERS) {
+            Run x = Run.with(Kind.WREN, n);
+            due.value(x, x.probe(0, Type.BIRD, Member.CALL, 1, 0), 3);
+            x.make(0, Kind.OWL, n);
+            due.value(x, x.probe(0, Type.BIRD, Member.CALL, 1, 0), 9);
+        }
+    }
+
+    private static void slotOfRepeated(Due due) {
+        due.test("2: A REPEATER is made of the thing in slot n & 7");
+        int[] numbers = {0, 1, 6, 7, 8, 15, 16, -1, -7, -8, Edge.LEAST, Edge.GREATEST};
+        int[] slots = {0, 1, 6, 7, 0, 7, 0, 7, 1, 0, 0, 7};
+        for (int i = 0; i < numbers.length; i++) {
+            Run x = new Run();
+            for (int slot = 0; slot < 8; slot++) {
+                x.make(slot, Kind.TIMES, 100 + slot);
+            }
+            due.is(x, x.make(2, Kind.REPEATER, numbers[i]), VALUE);
+            due.value(x, x.probe(2, Type.VOICE, Member.CALL, 1, 0), 100 + slots[i]);
+        }
+    }
+
+    private static void repeatedAsItIsNow(Due due) {
+        due.test("2: as it is there now");
+        Run x = Run.with(Kind.TIMES, 3);
+        x.make(1, Kind.REPEATER, 0);
+        x.make(0, Kind.TIMES, 100);
+        due.value(x, x.probe(1, Type.VOICE, Member.CALL, 2, 0), 6);
         x.drop(0);
-        due.value(x, "dropped since", x.probe(1, 0, 0, 2, 0), 6);
-        due.is("into its own slot", x.make(1, 8, 1), VALUE);
-        due.value(x, "two of them", x.probe(1, 0, 1, 2, 0), 18);
-        due.is("three of them", x.make(1, 8, -7), VALUE);
-        due.value(x, "three of them, probed", x.probe(1, 0, 1, 2, 0), 18);
-        due.is("four of them", x.make(1, 8, 1), REFUSED);
-        due.is("four of them, into another", x.make(2, 8, 1), REFUSED);
-        due.is("nothing was put", x.drop(2), NULL);
-        due.value(x, "three are left", x.probe(1, 0, 0, 2, 0), 6);
-        x.make(4, 2, 1);
-        x.make(5, 8, 4);
-        due.value(x, "CALL of a KITTEN's REPEATER", x.probe(5, 0, 0, 4, 0), 6);
-        due.value(x, "TWICE of a KITTEN's REPEATER", x.probe(5, 0, 1, 4, 0), 10);
-        x.make(6, 6, 0);
-        x.make(7, 8, 6);
-        due.value(x, "a SHADOW's REPEATER counts", x.probe(7, 0, 0, 0, 0), 1);
-        due.value(x, "both CALLS of TWICE", x.probe(7, 0, 1, 0, 0), 5);
-        x.make(6, 6, 0);
-        due.value(x, "the count is of all SHADOWS", x.probe(6, 0, 0, 0, 0), 4);
-        due.is("a REPEATER notes no EVENT", x.events(), 1);
+        due.value(x, x.probe(1, Type.VOICE, Member.CALL, 2, 0), 6);
+        due.is(x, x.make(1, Kind.REPEATER, 1), VALUE);
+        due.value(x, x.probe(1, Type.VOICE, Member.TWICE, 2, 0), 18);
     }
 
-    private static void makeRefuses(Due due) {
-        FamilyProbes x = new FamilyProbes();
-        int[] badSlots = {-1, 8, Integer.MIN_VALUE, Integer.MAX_VALUE};
-        int[] badKinds = {-1, 10, Integer.MIN_VALUE, Integer.MAX_VALUE};
-        for (int i = 0; i < 4; i++) {
-            due.is("make into slot " + badSlots[i], x.make(badSlots[i], 0, 1), REFUSED);
-            due.is("REPEATER into slot " + badSlots[i], x.make(badSlots[i], 8, 1), REFUSED);
-            due.is("make of kind " + badKinds[i], x.make(0, badKinds[i], 1), REFUSED);
-        }
-        due.is("refused calls note no EVENT", x.events(), 0);
-        due.is("refused calls put nothing", x.drop(0), NULL);
+    private static void repeatedIsNone(Due due) {
+        due.test("2: NULL if that is empty, and nothing is put");
+        Run x = Run.with(Kind.HOUND, 3);
+        due.is(x, x.make(0, Kind.REPEATER, 1), NULL);
+        due.is(x, x.is(0, Type.HOUND), true);
+        due.is(x, x.make(2, Kind.REPEATER, 2), NULL);
+        due.is(x, x.drop(2), NULL);
+        due.is(x, x.make(2, Kind.REPEATER, -1), NULL);
+        due.is(x, x.drop(2), NULL);
+        due.is(x, x.make(2, Kind.REPEATER, 0), VALUE);
+        due.is(x, x.drop(2), VALUE);
+        x.drop(0);
+        due.is(x, x.make(2, Kind.REPEATER, 0), NULL);
+        due.events(x, 20);
     }
 
-    private static void drop(Due due) {
-        FamilyProbes x = new FamilyProbes();
+    private static void deepestRepeater(Due due) {
+        due.test("2: REFUSED if that is a REPEATER of a REPEATER of a REPEATER.");
+        for (int kind = 0; kind < Kind.REPEATER; kind++) {
+            Run x = Run.with(kind, 2);
+            due.is(x, x.make(1, Kind.REPEATER, 0), VALUE);
+            due.is(x, x.make(2, Kind.REPEATER, 1), VALUE);
+            due.is(x, x.make(3, Kind.REPEATER, 2), VALUE);
+            due.is(x, x.make(4, Kind.REPEATER, 3), REFUSED);
+            due.is(x, x.drop(4), NULL);
+            due.is(x, x.make(2, Kind.REPEATER, 3), REFUSED);
+            due.is(x, x.make(3, Kind.REPEATER, 3), REFUSED);
+            x.store(0, 0, 3);
+            x.load(0, 0, 7);
+            due.is(x, x.make(7, Kind.REPEATER, 7), REFUSED);
+            due.is(x, x.same(3, 7), true);
+            due.is(x, x.make(7, Kind.REPEATER, 2), VALUE);
+            due.is(x, x.make(7, Kind.REPEATER, 1), VALUE);
+        }
+        Run x = Run.with(Kind.TIMES, 3);
+        for (int i = 0; i < 3; i++) {
+            due.is(x, x.make(0, Kind.REPEATER, 0), VALUE);
+        }
+        due.is(x, x.make(0, Kind.REPEATER, 0), REFUSED);
+        due.value(x, x.probe(0, Type.VOICE, Member.TWICE, 2, 0), 18);
+    }
+
+    private static void refusesOutOfRange(Due due) {
+        due.test("2: REFUSED for numbers out of range.");
+        Run x = Run.with(Kind.ECHO, 1);
+        for (int slot : Edge.beside(8)) {
+            due.is(x, x.make(slot, Kind.HOUND, 1), REFUSED);
+            due.is(x, x.make(slot, Kind.WREN, 1), REFUSED);
+            due.is(x, x.make(slot, Kind.REPEATER, 0), REFUSED);
+        }
+        for (int kind : Edge.beside(10)) {
+            due.is(x, x.make(0, kind, 1), REFUSED);
+            due.is(x, x.make(-1, kind, 1), REFUSED);
+        }
+        due.is(x, x.is(0, Type.ECHO), true);
+        for (int slot = 1; slot < 8; slot++) {
+            due.is(x, x.drop(slot), NULL);
+        }
+        due.events(x);
+    }
+
+    private static void refusedBeforeNull(Due due) {
+        due.test("2: REFUSED for numbers out of range. (a REPEATER of none)");
+        Run x = new Run();
+        due.is(x, x.make(-1, Kind.REPEATER, 0), REFUSED);
+        due.is(x, x.make(8, Kind.REPEATER, 0), REFUSED);
+        due.is(x, x.make(7, Kind.REPEATER, 0), NULL);
+    }
+
+    private static void drops(Due due) {
+        due.test("3: The slot is empty then: VALUE");
+        Run x = new Run();
         for (int slot = 0; slot < 8; slot++) {
-            x.make(slot, 3, slot);
+            x.make(slot, Kind.ECHO, slot);
         }
         for (int slot = 0; slot < 8; slot++) {
-            due.is("drop(" + slot + ")", x.drop(slot), VALUE);
-            due.is("drop(" + slot + ") again", x.drop(slot), NULL);
-            due.is("is(" + slot + ", 7) after", x.is(slot, 7), false);
-            if (slot < 7) {
-                due.is("the next one stays", x.is(slot + 1, 7), true);
+            due.is(x, x.drop(slot), VALUE);
+            for (int other = 0; other < 8; other++) {
+                due.is(x, x.is(other, Type.ECHO), other > slot);
             }
         }
-        due.is("drop(-1)", x.drop(-1), REFUSED);
-        due.is("drop(8)", x.drop(8), REFUSED);
-        due.is("drop(the least)", x.drop(Integer.MIN_VALUE), REFUSED);
-        due.is("drop(the greatest)", x.drop(Integer.MAX_VALUE), REFUSED);
+    }
+
+    private static void dropsNone(Due due) {
+        due.test("3: or NULL if it was");
+        for (int slot = 0; slot < 8; slot++) {
+            Run x = new Run();
+            due.is(x, x.drop(slot), NULL);
+            x.make(slot, Kind.OWL, 1);
+            due.is(x, x.drop(slot), VALUE);
+            due.is(x, x.drop(slot), NULL);
+        }
+    }
+
+    private static void dropLeavesTheThing(Due due) {
+        due.test("3: The slot is empty then (the thing may be elsewhere too)");
+        Run x = Run.with(Kind.TIMES, 3);
+        x.store(0, 0, 0);
+        x.load(0, 0, 1);
+        x.make(2, Kind.REPEATER, 0);
+        due.is(x, x.drop(0), VALUE);
+        due.value(x, x.probe(1, Type.VOICE, Member.CALL, 2, 0), 6);
+        due.value(x, x.probe(2, Type.VOICE, Member.CALL, 2, 0), 6);
+        x.load(0, 0, 3);
+        due.is(x, x.same(1, 3), true);
+    }
+
+    private static void dropRefuses(Due due) {
+        due.test("3: REFUSED.");
+        Run x = new Run();
+        for (int slot = 0; slot < 8; slot++) {
+            x.make(slot, Kind.ECHO, slot);
+        }
+        for (int slot : Edge.beside(8)) {
+            due.is(x, x.drop(slot), REFUSED);
+        }
+        due.is(x, x.drop(0), VALUE);
+        due.is(x, x.drop(7), VALUE);
+        for (int slot = 1; slot < 7; slot++) {
+            due.is(x, x.is(slot, Type.ECHO), true);
+        }
     }
 }

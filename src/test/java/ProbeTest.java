@@ -1,233 +1,247 @@
-/** Promises 4 (probe) and 5 (value): every member through every type of every kind. */
+/** Promises 4 (probe) and 5 (value). */
 final class ProbeTest {
     private static final int REFUSED = FamilyProbes.REFUSED;
     private static final int VALUE = FamilyProbes.VALUE;
     private static final int CAST = FamilyProbes.CAST;
     private static final int NULL = FamilyProbes.NULL;
-    private static final int BIG = Integer.MAX_VALUE;
-
-    // By member, a place for each type; X: the type has the member.
-    private static final String[] HAS = {
-        "XXXXXXXXX", "XXXXXXXXX", ".XX.XXX.X", "...XXXX..", "...XXXX..", "...XXXX..",
-        "...XXXX..", "XXX.....X", "...XXXX..", "...XXXX..", "...X...X.", "....X.X.."
-    };
-    // By kind, a place for each type; X: a thing of the kind is of the type.
-    static final String[] IS = {
-        "XX.XX....", "X.XX.X...", "XXXX.XX..", "X......X.", "XX......X", "XX......X",
-        "X........", "X........", "X........", "X.XX.X..."
-    };
-    // By kind HOUND, CAT, KITTEN, STRAY with n = 5: the answers for x = 7 that no type changes.
-    private static final int[] BASE_KINDS = {0, 1, 2, 9};
-    private static final int[] BASE_MEMBERS = {0, 1, 2, 3, 4, 5, 9};
-    private static final int[][] BASE_ANSWERS = {
-        {12, 24, 17, 11, 111, 107, 24},
-        {2, 1, -3, 15, 115, 107, 1},
-        {4, 11, 51, 30, 130, 107, 35},
-        {2, 1, -3, 21, 121, 107, 1}
-    };
+    private static final int STORE = FamilyProbes.STORE;
+    private static final int INDEX = FamilyProbes.INDEX;
+    private static final int ZERO = FamilyProbes.ZERO;
+    private static final int SIZE = FamilyProbes.SIZE;
 
     public static void main(String[] args) {
         Due due = new Due();
         howItWent(due);
-        baseKinds(due);
-        otherKinds(due);
-        membersByType(due);
-        sizeAndOver(due);
-        wraps(due);
-        refuses(due);
-        valueStays(due);
+        refusesSlots(due);
+        refusesTypes(due);
+        refusesMembers(due);
+        refusesManners(due);
+        refusesBeforeNull(due);
+        noSuchMember(due);
+        nullBeforeCast(due);
+        probeChangesNothing(due);
+        noValueYet(due);
+        valueOfTheLast(due);
+        valueStaysIfNotValue(due);
+        valueStaysAfterOtherCalls(due);
         due.end();
     }
 
-    private static void howItWent(Due due) {
-        for (int kind = -1; kind < 10; kind++) {
-            FamilyProbes x = new FamilyProbes();
-            x.make(1, 3, 0);
-            if (kind >= 0) {
-                x.make(0, kind, 1);
-            }
-            for (int at = 0; at < 9 * 12 * 4; at++) {
-                int type = at % 9;
-                int member = at / 9 % 12;
-                int manner = at / (9 * 12);
-                due.is("kind " + kind + ", type " + type + ", member " + member + ", manner "
-                        + manner, x.probe(0, type, member, 3, manner), wentDue(kind, type, member));
-            }
-        }
-    }
-
     private static int wentDue(int kind, int type, int member) {
-        if (HAS[member].charAt(type) != 'X') {
+        if (!Member.isIn(type, member)) {
             return REFUSED;
         }
-        if (member == 7 || member == 8) {
+        if (!Member.needsThing(member)) {
             return VALUE;
         }
         if (kind < 0) {
             return NULL;
         }
-        return IS[kind].charAt(type) == 'X' ? VALUE : CAST;
+        return Type.has(type, kind) ? VALUE : CAST;
     }
 
-    private static void baseKinds(Due due) {
-        for (int k = 0; k < 4; k++) {
-            for (int m = 0; m < BASE_MEMBERS.length; m++) {
-                FamilyProbes x = new FamilyProbes();
-                x.make(0, BASE_KINDS[k], 5);
-                throughAllTypes(due, x, BASE_KINDS[k], BASE_MEMBERS[m], BASE_ANSWERS[k][m]);
+    private static void howItWent(Due due) {
+        due.test("4: how it went: VALUE, CAST or NULL; REFUSED");
+        for (int kind = -1; kind < Kind.ALL; kind++) {
+            Run x = new Run();
+            x.make(1, Kind.ECHO, 0);
+            if (kind >= 0) {
+                x.make(0, kind, 1);
+            }
+            for (int at = 0; at < Type.ALL * Member.ALL * 4; at++) {
+                int type = at % Type.ALL;
+                int member = at / Type.ALL % Member.ALL;
+                due.is(x, x.probe(0, type, member, 3, at / (Type.ALL * Member.ALL)),
+                        wentDue(kind, type, member));
             }
         }
     }
 
-    private static void throughAllTypes(Due due, FamilyProbes x, int kind, int member, int want) {
-        for (int type = 0; type < 9; type++) {
-            if (wentDue(kind, type, member) == VALUE) {
-                for (int manner = 0; manner < 4; manner++) {
-                    due.value(x, "kind " + kind + ", type " + type + ", member " + member
-                            + ", manner " + manner, x.probe(0, type, member, 7, manner), want);
-                }
-            }
-        }
-    }
-
-    private static void otherKinds(Due due) {
-        int[] kinds = {3, 4, 5, 7};
-        int[] call = {7, 9, 63, 35};
-        int[] twice = {7, 18, 126, 175};
-        for (int k = 0; k < kinds.length; k++) {
-            FamilyProbes x = new FamilyProbes();
-            x.make(0, kinds[k], 5);
-            throughAllTypes(due, x, kinds[k], 0, call[k]);
-            throughAllTypes(due, x, kinds[k], 1, twice[k]);
-            throughAllTypes(due, x, kinds[k], 2, 17);
-        }
-        for (int manner = 0; manner < 4; manner++) {
-            FamilyProbes x = new FamilyProbes();
-            x.make(0, 6, 5);
-            due.is("CAST does not count", x.probe(0, 3, 0, 7, manner), CAST);
-            due.is("REFUSED does not count", x.probe(0, 0, 3, 7, manner), REFUSED);
-            due.value(x, "SHADOW's CALL", x.probe(0, 0, 0, 7, manner), 13);
-            due.value(x, "SHADOW's TWICE", x.probe(0, 0, 1, 7, manner), 22);
-            x.make(0, 6, 5);
-            due.value(x, "another SHADOW's CALL", x.probe(0, 0, 0, 7, manner), 16);
-        }
-    }
-
-    private static void membersByType(Due due) {
-        FamilyProbes x = new FamilyProbes();
-        x.make(0, 2, 5);
-        x.make(1, 0, 5);
-        x.make(2, 6, 5);
-        for (int manner = 0; manner < 4; manner++) {
-            due.value(x, "MARK of BASE", x.probe(0, 3, 6, 7, manner), 1);
-            due.value(x, "MARK of CAT", x.probe(0, 5, 6, 7, manner), 3);
-            due.value(x, "MARK of KITTEN", x.probe(0, 6, 6, 7, manner), 3);
-            due.value(x, "MARK of a HOUND as BASE", x.probe(1, 3, 6, 7, manner), 1);
-            due.value(x, "MARK of HOUND", x.probe(1, 4, 6, 7, manner), 2);
-            // In a SHADOW's slot, a KITTEN's and an empty one: no thing is needed.
-            for (int slot = 0; slot < 8; slot++) {
-                due.value(x, "TONE of VOICE", x.probe(slot, 0, 7, 1, manner), 5);
-                due.value(x, "TONE of LOUD", x.probe(slot, 1, 7, 1, manner), 7);
-                due.value(x, "TONE of SOFT", x.probe(slot, 2, 7, 1, manner), 5);
-                due.value(x, "TONE of BIRD", x.probe(slot, 8, 7, 1, manner), 7);
-                due.value(x, "RANK of BASE", x.probe(slot, 3, 8, 10, manner), 11);
-                due.value(x, "RANK of HOUND", x.probe(slot, 4, 8, 10, manner), 12);
-                due.value(x, "RANK of CAT", x.probe(slot, 5, 8, 10, manner), 11);
-                due.value(x, "RANK of KITTEN", x.probe(slot, 6, 8, 10, manner), 16);
-            }
-        }
-    }
-
-    private static void sizeAndOver(Due due) {
-        FamilyProbes x = new FamilyProbes();
-        for (int manner = 0; manner < 4; manner++) {
-            for (int kind : BASE_KINDS) {
-                x.make(0, kind, -6);
-                due.value(x, "SIZE of kind " + kind, x.probe(0, 3, 10, 1, manner), -6);
-            }
-            x.make(0, 3, 44);
-            due.value(x, "SIZE of an ECHO", x.probe(0, 7, 10, 1, manner), 44);
-            x.make(0, 0, 5);
-            due.value(x, "OVER of a HOUND", x.probe(0, 4, 11, 1, manner), 10);
-            due.is("OVER of a HOUND as KITTEN", x.probe(0, 6, 11, 1, manner), CAST);
-            x.make(0, 2, 5);
-            due.value(x, "OVER of a KITTEN", x.probe(0, 6, 11, 1, manner), 15);
-            x.make(0, 9, 5);
-            due.is("OVER of a STRAY as KITTEN", x.probe(0, 6, 11, 1, manner), CAST);
-            due.is("OVER of a STRAY as CAT", x.probe(0, 5, 11, 1, manner), REFUSED);
-        }
-    }
-
-    private static void wraps(Due due) {
-        FamilyProbes x = new FamilyProbes();
-        x.make(0, 0, BIG);
-        due.value(x, "HOUND's CALL", x.probe(0, 0, 0, BIG, 0), -2);
-        due.value(x, "HOUND's TWICE", x.probe(0, 0, 1, BIG, 0), -4);
-        due.value(x, "HOUND's WEIGHT", x.probe(0, 3, 3, 0, 0), -1);
-        due.value(x, "HOUND's VOLUME", x.probe(0, 1, 2, BIG, 0), BIG + 10);
-        due.value(x, "HOUND's OPEN", x.probe(0, 3, 5, BIG, 0), BIG + 100);
-        due.value(x, "RANK", x.probe(0, 3, 8, BIG, 0), Integer.MIN_VALUE);
-        x.make(0, 1, Integer.MIN_VALUE);
-        due.value(x, "CAT's CALL", x.probe(0, 0, 0, -1, 0), BIG);
-        due.value(x, "CAT's VOLUME", x.probe(0, 2, 2, Integer.MIN_VALUE, 0), BIG - 9);
-        x.make(0, 9, BIG);
-        due.value(x, "STRAY's WEIGHT", x.probe(0, 3, 3, 0, 0), -3);
-        x.make(0, 7, 65536);
-        due.value(x, "TIMES's TWICE", x.probe(0, 0, 1, 3, 0), 0);
-    }
-
-    private static void refuses(Due due) {
-        FamilyProbes x = new FamilyProbes();
+    private static Run withKittens() {
+        Run x = new Run();
         for (int slot = 0; slot < 8; slot++) {
-            x.make(slot, 2, 3);
+            x.make(slot, Kind.KITTEN, slot);
         }
-        int[] lows = {-1, Integer.MIN_VALUE};
-        for (int low : lows) {
-            due.is("slot " + low, x.probe(low, 3, 0, 1, 0), REFUSED);
-            due.is("type " + low, x.probe(0, low, 0, 1, 0), REFUSED);
-            due.is("member " + low, x.probe(0, 3, low, 1, 0), REFUSED);
-            due.is("manner " + low, x.probe(0, 3, 0, 1, low), REFUSED);
-            due.is("RANK, slot " + low, x.probe(low, 3, 8, 1, 0), REFUSED);
-        }
-        for (int more = 0; more < 40; more++) {
-            due.is("slot 8 + " + more, x.probe(8 + more, 3, 0, 1, 0), REFUSED);
-            due.is("type 9 + " + more, x.probe(0, 9 + more, 0, 1, 0), REFUSED);
-            due.is("member 12 + " + more, x.probe(0, 6, 12 + more, 1, 0), REFUSED);
-            due.is("manner 4 + " + more, x.probe(0, 3, 0, 1, 4 + more), REFUSED);
-            due.is("TONE, slot 8 + " + more, x.probe(8 + more, 0, 7, 1, 0), REFUSED);
-        }
-        due.is("refused probes leave no value", x.value(), 0);
+        return x;
     }
 
-    private static void valueStays(Due due) {
-        FamilyProbes x = new FamilyProbes();
-        x.make(0, 3, 5);
-        x.make(1, 0, 5);
-        due.is("value() before the first", x.value(), 0);
-        due.value(x, "CALL", x.probe(0, 0, 0, 77, 0), 77);
-        x.probe(0, 3, 0, 1, 0);
-        x.probe(2, 0, 0, 1, 0);
-        x.probe(0, 0, 3, 1, 0);
-        x.compare(0, 1);
-        x.compare(1, 2);
-        x.compare(1, 8);
-        x.flow(5, -1, 0);
-        x.flow(5, 3, 3);
-        x.flow(5, 1001, 0);
-        x.flow(7, 1, 1);
-        x.number(4, 1, 0);
-        x.number(10, 1, 1);
-        x.make(3, 0, 9);
-        x.drop(3);
+    private static void refusesSlots(Due due) {
+        due.test("4: REFUSED for numbers out of range (the slot)");
+        Run x = withKittens();
+        for (int slot : Edge.beside(8)) {
+            due.is(x, x.probe(slot, Type.BASE, Member.SIZE, 1, 0), REFUSED);
+            due.is(x, x.probe(slot, Type.VOICE, Member.TONE, 1, 0), REFUSED);
+            due.is(x, x.probe(slot, Type.BASE, Member.RANK, 1, 0), REFUSED);
+        }
+        due.value(x, x.probe(7, Type.BASE, Member.SIZE, 1, 0), 7);
+        due.value(x, x.probe(0, Type.BASE, Member.SIZE, 1, 0), 0);
+    }
+
+    private static void refusesTypes(Due due) {
+        due.test("4: REFUSED for numbers out of range (the type)");
+        Run x = withKittens();
+        x.make(1, Kind.OWL, 0);
+        for (int type : Edge.beside(9)) {
+            due.is(x, x.probe(0, type, Member.CALL, 1, 0), REFUSED);
+            due.is(x, x.probe(0, type, Member.TONE, 1, 0), REFUSED);
+            due.is(x, x.probe(0, type, Member.RANK, 1, 0), REFUSED);
+        }
+        due.value(x, x.probe(0, 0, Member.CALL, 1, 0), 2);
+        due.value(x, x.probe(1, 8, Member.CALL, 1, 0), 9);
+    }
+
+    private static void refusesMembers(Due due) {
+        due.test("4: REFUSED for numbers out of range (the member)");
+        Run x = withKittens();
+        for (int member : Edge.beside(12)) {
+            due.is(x, x.probe(1, Type.KITTEN, member, 1, 0), REFUSED);
+            due.is(x, x.probe(1, Type.VOICE, member, 1, 0), REFUSED);
+        }
+        due.value(x, x.probe(1, Type.KITTEN, 0, 5, 0), 8);
+        due.value(x, x.probe(1, Type.KITTEN, 11, 5, 0), 3);
+    }
+
+    private static void refusesManners(Due due) {
+        due.test("4: REFUSED for numbers out of range (the manner)");
+        Run x = withKittens();
+        for (int manner : Edge.beside(4)) {
+            due.is(x, x.probe(1, Type.KITTEN, Member.CALL, 5, manner), REFUSED);
+            due.is(x, x.probe(1, Type.VOICE, Member.TONE, 5, manner), REFUSED);
+            due.is(x, x.probe(1, Type.BASE, Member.RANK, 5, manner), REFUSED);
+        }
+        for (int manner = 0; manner < 4; manner++) {
+            due.value(x, x.probe(1, Type.KITTEN, Member.CALL, 5, manner), 8);
+        }
+    }
+
+    private static void refusesBeforeNull(Due due) {
+        due.test("4: REFUSED for numbers out of range (of none, and of a thing of other type)");
+        Run x = Run.with(Kind.ECHO, 1);
+        for (int slot = 0; slot < 2; slot++) {
+            due.is(x, x.probe(slot, 9, Member.CALL, 1, 0), REFUSED);
+            due.is(x, x.probe(slot, Type.HOUND, 12, 1, 0), REFUSED);
+            due.is(x, x.probe(slot, Type.HOUND, Member.CALL, 1, 4), REFUSED);
+            due.is(x, x.probe(slot, Type.HOUND, Member.CALL, 1, -1), REFUSED);
+            due.is(x, x.probe(slot, Type.HOUND, Member.CALL, 1, 3), slot == 0 ? CAST : NULL);
+        }
+    }
+
+    private static void noSuchMember(Due due) {
+        due.test("4: and if the type has no such member");
+        for (int at = 0; at < Type.ALL * Member.ALL; at++) {
+            int type = at % Type.ALL;
+            int member = at / Type.ALL;
+            if (!Member.isIn(type, member)) {
+                Run x = Run.with(Kind.HOUND, 1);
+                for (int kind = 0; kind < Kind.ALL; kind++) {
+                    x.make(1, kind, 0);
+                    due.is(x, x.probe(1, type, member, 1, kind & 3), REFUSED);
+                }
+                due.is(x, x.probe(7, type, member, 1, 0), REFUSED);
+            }
+        }
+    }
+
+    private static void nullBeforeCast(Due due) {
+        due.test("4: (NULL is looked at before CAST.)");
+        for (int type = 0; type < Type.ALL; type++) {
+            for (int manner = 0; manner < 4; manner++) {
+                Run x = new Run();
+                due.is(x, x.probe(3, type, Member.CALL, 1, manner), NULL);
+                x.make(3, Kind.SHADOW, 1);
+                due.is(x, x.probe(3, type, Member.CALL, 1, manner),
+                        type == Type.VOICE ? VALUE : CAST);
+                x.drop(3);
+                due.is(x, x.probe(3, type, Member.CALL, 1, manner), NULL);
+            }
+        }
+    }
+
+    private static void probeChangesNothing(Due due) {
+        due.test("4: A PROBE (puts nothing, and notes nothing)");
+        Run x = Run.with(Kind.HOUND, 5);
         x.store(0, 0, 0);
-        x.load(0, 0, 3);
-        x.copy(0, 0, 1, 0, 4);
-        x.event(0);
-        x.events();
-        due.is("value() after calls that leave it", x.value(), 77);
-        due.value(x, "compare", x.compare(1, 1), 0);
-        due.value(x, "flow", x.flow(3, 1, 0), 2);
-        due.value(x, "number", x.number(0, 3, 0), 3);
-        due.value(x, "TONE", x.probe(7, 0, 7, 0, 3), 5);
+        for (int member = 0; member < Member.ALL; member++) {
+            x.probe(0, Type.HOUND, member, 1, 0);
+            x.probe(0, Type.BASE, member, 1, 0);
+        }
+        due.events(x, 20);
+        x.load(0, 0, 1);
+        due.is(x, x.same(0, 1), true);
+    }
+
+    private static void noValueYet(Due due) {
+        due.test("5: 0 before the first one.");
+        Run x = new Run();
+        due.is(x, x.value(), 0);
+        x.make(0, Kind.KITTEN, 5);
+        x.store(0, 0, 0);
+        x.drop(0);
+        due.is(x, x.value(), 0);
+        leaveNoValue(due, x);
+        due.is(x, x.value(), 0);
+        due.value(x, x.number(0, 1, 0), 1);
+        due.value(x, x.number(0, 0, 0), 0);
+    }
+
+    /** Calls that could leave a value, but do not go VALUE. */
+    private static void leaveNoValue(Due due, Run x) {
+        x.make(0, Kind.ECHO, 5);
+        x.make(1, Kind.HOUND, 5);
+        x.drop(2);
+        due.is(x, x.probe(0, Type.BASE, Member.CALL, 1, 0), CAST);
+        due.is(x, x.probe(2, Type.BASE, Member.CALL, 1, 0), NULL);
+        due.is(x, x.probe(0, Type.VOICE, Member.WEIGHT, 1, 0), REFUSED);
+        due.is(x, x.probe(0, Type.VOICE, Member.CALL, 1, 4), REFUSED);
+        due.is(x, x.compare(0, 1), CAST);
+        due.is(x, x.compare(1, 2), NULL);
+        due.is(x, x.compare(1, 8), REFUSED);
+        due.is(x, x.flow(5, -1, 0), SIZE);
+        due.is(x, x.flow(5, 3, 3), INDEX);
+        due.is(x, x.flow(5, 1001, 0), REFUSED);
+        due.is(x, x.flow(7, 1, 1), REFUSED);
+        due.is(x, x.number(4, 1, 0), ZERO);
+        due.is(x, x.number(10, 1, 1), REFUSED);
+    }
+
+    private static void valueOfTheLast(Due due) {
+        due.test("5: The value of the last probe, compare, flow or number");
+        Run x = Run.with(Kind.HOUND, 5);
+        x.make(1, Kind.CAT, 6);
+        due.value(x, x.probe(0, Type.VOICE, Member.CALL, 70, 0), 75);
+        due.value(x, x.compare(0, 1), -1);
+        due.value(x, x.flow(3, 1, 0), 2);
+        due.value(x, x.number(0, 3, 0), 3);
+        due.value(x, x.probe(7, Type.VOICE, Member.TONE, 0, 3), 5);
+        due.value(x, x.probe(7, Type.BASE, Member.RANK, -1, 3), 0);
+        due.value(x, x.compare(1, 0), 1);
+        due.value(x, x.compare(1, 1), 0);
+        due.value(x, x.flow(0, -9, 2), -4);
+        due.is(x, x.value(), -4);
+    }
+
+    private static void valueStaysIfNotValue(Due due) {
+        due.test("5: that went VALUE");
+        Run x = new Run();
+        due.value(x, x.number(0, 77, 0), 77);
+        leaveNoValue(due, x);
+        due.is(x, x.value(), 77);
+    }
+
+    private static void valueStaysAfterOtherCalls(Due due) {
+        due.test("5: the last probe, compare, flow or number (and of no other call)");
+        Run x = new Run();
+        due.value(x, x.number(0, 77, 0), 77);
+        due.is(x, x.make(3, Kind.HOUND, 9), VALUE);
+        due.is(x, x.store(0, 0, 3), VALUE);
+        due.is(x, x.store(2, 0, 3), STORE);
+        due.is(x, x.load(0, 0, 4), VALUE);
+        due.is(x, x.copy(0, 0, 1, 0, 4), VALUE);
+        due.is(x, x.same(3, 4), true);
+        due.is(x, x.is(3, Type.HOUND), true);
+        due.is(x, x.event(0), 20);
+        due.is(x, x.events(), 1);
+        due.is(x, x.drop(3), VALUE);
+        due.is(x, x.value(), 77);
     }
 }

@@ -5,123 +5,33 @@ final class RowsTest {
     private static final int NULL = FamilyProbes.NULL;
     private static final int STORE = FamilyProbes.STORE;
     private static final int INDEX = FamilyProbes.INDEX;
-    private static final int LEAST = Integer.MIN_VALUE;
-    private static final int GREATEST = Integer.MAX_VALUE;
-    private static final int[] NO_PLACES = {-1, 4, 5, 16, LEAST, GREATEST};
-    private static final int[] NO_ROWS = {-1, 4, 5, 32, LEAST, GREATEST};
-    private static final int[] NO_SLOTS = {-1, 8, 9, LEAST, GREATEST};
-
-    // By row, a place for each kind; X: a thing of the kind fits.
-    private static final String[] FITS = {"XXXXXXXXXX", "XXX......X", ".XX......X", "X........."};
 
     public static void main(String[] args) {
         Due due = new Due();
-        storeFits(due);
-        storeReplaces(due);
-        storeInWrongCases(due);
-        load(due);
-        loadInWrongCases(due);
+        storePuts(due);
+        storePutsNone(due);
+        storeIndex(due);
+        storeMisfit(due);
+        storeRefuses(due);
+        loadBrings(due);
+        loadBringsNone(due);
+        loadIndex(due);
+        loadRefuses(due);
+        copyOfEachStretch(due);
+        copyOfHugeStretches(due);
         copyAcross(due);
+        copyOfNoPlaces(due);
         copyStopsAtMisfit(due);
+        copyStopsAtFirstMisfit(due);
+        copyOfNoneFits(due);
         copyWithinRow(due);
-        copyInWrongCases(due);
+        copyRefuses(due);
         due.end();
     }
 
-    private static void storeFits(Due due) {
-        for (int row = 0; row < 4; row++) {
-            for (int kind = 0; kind < 10; kind++) {
-                for (int place = 0; place < 4; place++) {
-                    FamilyProbes x = new FamilyProbes();
-                    x.make(7, 1, 1);
-                    x.make(6, kind, 7);
-                    boolean fits = FITS[row].charAt(kind) == 'X';
-                    due.is("store(" + row + ", " + place + ", 6) of kind " + kind,
-                            x.store(row, place, 6), fits ? VALUE : STORE);
-                    x.load(row, place, 0);
-                    due.is("and what is there", x.same(0, 6), fits);
-                    due.is("or none", x.same(0, 1), !fits);
-                }
-            }
-        }
-    }
-
-    private static void storeReplaces(Due due) {
-        FamilyProbes x = new FamilyProbes();
-        x.make(0, 0, 1);
-        x.make(1, 1, 1);
-        x.store(3, 2, 0);
-        due.is("a CAT among HOUNDS", x.store(3, 2, 1), STORE);
-        x.load(3, 2, 5);
-        due.is("the HOUND stays", x.same(5, 0), true);
-        due.is("none among HOUNDS", x.store(3, 2, 7), VALUE);
-        x.load(3, 2, 5);
-        due.is("the HOUND is gone", x.same(5, 7), true);
-        x.store(0, 2, 0);
-        due.is("another one", x.store(0, 2, 1), VALUE);
-        x.load(0, 2, 5);
-        due.is("is there now", x.same(5, 1), true);
-        due.is("the slot keeps it", x.is(1, 5), true);
-    }
-
-    private static void storeInWrongCases(Due due) {
-        FamilyProbes x = new FamilyProbes();
-        x.make(0, 1, 1);
-        for (int place : NO_PLACES) {
-            due.is("store(2, " + place + ", 0)", x.store(2, place, 0), INDEX);
-            due.is("INDEX before STORE", x.store(3, place, 0), INDEX);
-            due.is("INDEX for none", x.store(3, place, 5), INDEX);
-        }
-        for (int row : NO_ROWS) {
-            due.is("store(" + row + ", 0, 0)", x.store(row, 0, 0), REFUSED);
-            due.is("store(" + row + ", 4, 0)", x.store(row, 4, 0), REFUSED);
-        }
-        for (int slot : NO_SLOTS) {
-            due.is("store(0, 0, " + slot + ")", x.store(0, 0, slot), REFUSED);
-            due.is("store(0, -1, " + slot + ")", x.store(0, -1, slot), REFUSED);
-        }
-        for (int at = 0; at < 16; at++) {
-            x.load(at / 4, at % 4, 3);
-            due.is("nothing was put", x.drop(3), NULL);
-        }
-    }
-
-    private static void load(Due due) {
-        FamilyProbes x = new FamilyProbes();
-        for (int place = 0; place < 4; place++) {
-            x.make(place, 2, place);
-            x.store(2, place, place);
-        }
-        for (int place = 0; place < 4; place++) {
-            due.is("load(2, " + place + ", 7)", x.load(2, place, 7), VALUE);
-            due.is("what comes", x.same(7, place), true);
-            due.is("again", x.load(2, place, 6), VALUE);
-            due.is("it stays in the row", x.same(6, place), true);
-        }
-        due.is("from an empty place", x.load(1, 0, 7), VALUE);
-        due.is("the slot is empty then", x.drop(7), NULL);
-    }
-
-    private static void loadInWrongCases(Due due) {
-        FamilyProbes x = new FamilyProbes();
-        x.make(0, 0, 1);
-        for (int place : NO_PLACES) {
-            due.is("load(0, " + place + ", 0)", x.load(0, place, 0), INDEX);
-        }
-        for (int row : NO_ROWS) {
-            due.is("load(" + row + ", 0, 0)", x.load(row, 0, 0), REFUSED);
-            due.is("load(" + row + ", 4, 0)", x.load(row, 4, 0), REFUSED);
-        }
-        for (int slot : NO_SLOTS) {
-            due.is("load(0, 0, " + slot + ")", x.load(0, 0, slot), REFUSED);
-            due.is("load(0, 4, " + slot + ")", x.load(0, 4, slot), REFUSED);
-        }
-        due.is("the slot keeps its thing", x.is(0, 4), true);
-    }
-
-    /** Row 0: HOUND, CAT, KITTEN, none; they are in slots 0, 1, 2 too, and slot 3 is empty. */
-    private static FamilyProbes withRow() {
-        FamilyProbes x = new FamilyProbes();
+    /** Row 0 holds HOUND, CAT, KITTEN, none; slots 0, 1, 2 the same things, slots 3 .. 7 none. */
+    private static Run withRow() {
+        Run x = new Run();
         for (int i = 0; i < 3; i++) {
             x.make(i, i, i);
             x.store(0, i, i);
@@ -129,75 +39,310 @@ final class RowsTest {
         return x;
     }
 
-    private static void rowHolds(Due due, FamilyProbes x, String after, int row, int... slots) {
+    /** What the places of a row hold must be what these slots hold. */
+    private static void rowHolds(Due due, Run x, int row, int... slots) {
         for (int place = 0; place < 4; place++) {
             x.load(row, place, 7);
-            due.is(after + ": place " + place, x.same(7, slots[place]), true);
+            due.is(x.lastCall() + " brings what slot " + slots[place] + " holds",
+                    x.same(7, slots[place]), true);
         }
+    }
+
+    private static void storePuts(Due due) {
+        due.test("8: Puts the thing of the slot into a place of a row 0 .. 3: VALUE");
+        for (int at = 0; at < 16; at++) {
+            Run x = Run.with(Kind.HOUND, 1);
+            x.make(6, at / 4 == 2 ? Kind.STRAY : Kind.HOUND, 1);
+            due.is(x, x.store(at / 4, at % 4, 6), VALUE);
+            due.is(x, x.drop(6), VALUE);
+            for (int other = 0; other < 16; other++) {
+                x.load(other / 4, other % 4, 5);
+                due.is(x, x.drop(5), other == at ? VALUE : NULL);
+            }
+        }
+    }
+
+    private static void storePutsNone(Due due) {
+        due.test("8: (or none, if it is empty)");
+        for (int row = 0; row < 4; row++) {
+            Run x = Run.with(row == 3 ? Kind.HOUND : Kind.CAT, 1);
+            x.store(row, 0, 0);
+            x.store(row, 3, 0);
+            due.is(x, x.store(row, 0, 4), VALUE);
+            rowHolds(due, x, row, 4, 4, 4, 0);
+            due.is(x, x.store(row, 3, 4), VALUE);
+            rowHolds(due, x, row, 4, 4, 4, 4);
+        }
+    }
+
+    private static void storeIndex(Due due) {
+        due.test("8: INDEX if the place is not 0 .. 3; else STORE");
+        Run x = Run.with(Kind.CAT, 1);
+        for (int place : Edge.beside(4)) {
+            due.is(x, x.store(2, place, 0), INDEX);
+            due.is(x, x.store(3, place, 0), INDEX);
+            due.is(x, x.store(3, place, 5), INDEX);
+        }
+        for (int row = 0; row < 4; row++) {
+            rowHolds(due, x, row, 5, 5, 5, 5);
+        }
+        for (int place = 0; place < 4; place++) {
+            due.is(x, x.store(3, place, 0), STORE);
+            due.is(x, x.store(2, place, 0), VALUE);
+        }
+    }
+
+    private static void storeMisfit(Due due) {
+        due.test("8: else STORE if the thing is not of the row's type; else VALUE");
+        int[][] fitting = {{}, Kind.BASES, {Kind.CAT, Kind.KITTEN, Kind.STRAY}, {Kind.HOUND}};
+        for (int row = 1; row < 4; row++) {
+            for (int kind = 0; kind < Kind.ALL; kind++) {
+                Run x = Run.with(row == 3 ? Kind.HOUND : Kind.CAT, 1);
+                x.store(row, 2, 0);
+                x.make(1, kind, 0);
+                boolean fits = contains(fitting[row], kind);
+                due.is(x, x.store(row, 2, 1), fits ? VALUE : STORE);
+                rowHolds(due, x, row, 4, 4, fits ? 1 : 0, 4);
+                due.is(x, x.is(1, Type.VOICE), true);
+            }
+        }
+        for (int kind = 0; kind < Kind.ALL; kind++) {
+            Run x = Run.with(Kind.TIMES, 1);
+            x.make(1, kind, 0);
+            due.is(x, x.store(0, 2, 1), VALUE);
+        }
+    }
+
+    private static boolean contains(int[] row, int number) {
+        for (int each : row) {
+            if (each == number) {
+                return true;
+            }
+        }
+        return false;
+    }
+
+    private static void storeRefuses(Due due) {
+        due.test("8: REFUSED for numbers out of range.");
+        Run x = Run.with(Kind.HOUND, 1);
+        for (int row : Edge.beside(4)) {
+            due.is(x, x.store(row, 0, 0), REFUSED);
+            due.is(x, x.store(row, 0, 5), REFUSED);
+            due.is(x, x.store(row, 4, 0), REFUSED);
+        }
+        for (int slot : Edge.beside(8)) {
+            due.is(x, x.store(0, 0, slot), REFUSED);
+            due.is(x, x.store(3, 3, slot), REFUSED);
+            due.is(x, x.store(0, -1, slot), REFUSED);
+        }
+        for (int row = 0; row < 4; row++) {
+            rowHolds(due, x, row, 5, 5, 5, 5);
+        }
+        due.is(x, x.store(0, 0, 0), VALUE);
+        due.is(x, x.store(3, 3, 7), VALUE);
+    }
+
+    private static void loadBrings(Due due) {
+        due.test("9: What is in the place of the row goes into the slot: VALUE");
+        for (int row = 0; row < 4; row++) {
+            Run x = new Run();
+            for (int place = 0; place < 4; place++) {
+                x.make(place, row == 3 ? Kind.HOUND : Kind.KITTEN, place);
+                x.store(row, place, place);
+            }
+            for (int place = 0; place < 4; place++) {
+                due.is(x, x.load(row, place, 4 + place), VALUE);
+                due.is(x, x.same(4 + place, place), true);
+            }
+            rowHolds(due, x, row, 0, 1, 2, 3);
+        }
+    }
+
+    private static void loadBringsNone(Due due) {
+        due.test("9: What is in the place of the row goes into the slot (none, if it is empty)");
+        for (int at = 0; at < 16; at++) {
+            Run x = Run.with(Kind.OWL, 1);
+            due.is(x, x.load(at / 4, at % 4, 0), VALUE);
+            due.is(x, x.drop(0), NULL);
+        }
+    }
+
+    private static void loadIndex(Due due) {
+        due.test("9: VALUE; INDEX.");
+        Run x = withRow();
+        for (int place : Edge.beside(4)) {
+            for (int row = 0; row < 4; row++) {
+                due.is(x, x.load(row, place, 0), INDEX);
+            }
+        }
+        due.is(x, x.is(0, Type.HOUND), true);
+        due.is(x, x.load(0, 0, 1), VALUE);
+        due.is(x, x.same(0, 1), true);
+        due.is(x, x.load(0, 3, 1), VALUE);
+        due.is(x, x.drop(1), NULL);
+    }
+
+    private static void loadRefuses(Due due) {
+        due.test("9: REFUSED for numbers out of range.");
+        Run x = withRow();
+        for (int row : Edge.beside(4)) {
+            due.is(x, x.load(row, 0, 0), REFUSED);
+            due.is(x, x.load(row, 4, 0), REFUSED);
+        }
+        for (int slot : Edge.beside(8)) {
+            due.is(x, x.load(0, 0, slot), REFUSED);
+            due.is(x, x.load(0, 4, slot), REFUSED);
+        }
+        due.is(x, x.is(0, Type.HOUND), true);
+        rowHolds(due, x, 0, 0, 1, 2, 3);
+        due.is(x, x.load(3, 0, 0), VALUE);
+        due.is(x, x.load(0, 0, 7), VALUE);
+    }
+
+    private static void copyOfEachStretch(Due due) {
+        due.test("10: INDEX if at, there or n is below 0, or at + n or there + n above 4");
+        for (int at = -2; at <= 6; at++) {
+            for (int there = -2; there <= 6; there++) {
+                for (int n = -2; n <= 6; n++) {
+                    boolean fits = at >= 0 && there >= 0 && n >= 0 && at + n <= 4 && there + n <= 4;
+                    Run x = withRow();
+                    due.is(x, x.copy(0, at, 1, there, n), fits ? VALUE : INDEX);
+                    for (int place = 0; place < 4; place++) {
+                        boolean copied = fits && place >= there && place < there + n;
+                        x.load(1, place, 7);
+                        due.is(x, x.same(7, copied ? at + place - there : 3), true);
+                    }
+                }
+            }
+        }
+    }
+
+    private static void copyOfHugeStretches(Due due) {
+        due.test("10: INDEX, and nothing is copied");
+        int[] huge = {Edge.LEAST, Edge.LEAST + 1, Edge.GREATEST - 3, Edge.GREATEST};
+        Run x = withRow();
+        for (int far : huge) {
+            for (int near = 0; near < 5; near += 4) {
+                due.is(x, x.copy(0, far, 1, 0, near), INDEX);
+                due.is(x, x.copy(0, 0, 1, far, near), INDEX);
+                due.is(x, x.copy(0, near, 1, 0, far), INDEX);
+                due.is(x, x.copy(0, 0, 1, near, far), INDEX);
+                due.is(x, x.copy(0, far, 3, near, far), INDEX);
+                due.is(x, x.copy(0, near, 0, far, far), INDEX);
+            }
+            due.is(x, x.copy(0, far, 1, far, far), INDEX);
+        }
+        due.is(x, x.copy(0, 0, 3, 0, 5), INDEX);
+        rowHolds(due, x, 0, 0, 1, 2, 3);
+        rowHolds(due, x, 1, 3, 3, 3, 3);
+        rowHolds(due, x, 3, 3, 3, 3, 3);
     }
 
     private static void copyAcross(Due due) {
-        FamilyProbes x = withRow();
-        due.is("copy(0, 0, 1, 0, 4)", x.copy(0, 0, 1, 0, 4), VALUE);
-        rowHolds(due, x, "the whole row", 1, 0, 1, 2, 3);
-        rowHolds(due, x, "the row that it came from", 0, 0, 1, 2, 3);
-        due.is("copy(1, 1, 2, 2, 2)", x.copy(1, 1, 2, 2, 2), VALUE);
-        rowHolds(due, x, "a part of it", 2, 3, 3, 1, 2);
-        due.is("copy(2, 0, 1, 0, 2)", x.copy(2, 0, 1, 0, 2), VALUE);
-        rowHolds(due, x, "none is copied too", 1, 3, 3, 2, 3);
-        due.is("copy(0, 0, 3, 3, 1)", x.copy(0, 0, 3, 3, 1), VALUE);
-        rowHolds(due, x, "one HOUND", 3, 3, 3, 3, 0);
-        due.is("copy(0, 0, 1, 0, 0)", x.copy(0, 0, 1, 0, 0), VALUE);
-        rowHolds(due, x, "no place", 1, 3, 3, 2, 3);
-        due.is("copy(0, 4, 1, 4, 0)", x.copy(0, 4, 1, 4, 0), VALUE);
+        due.test("10: Copies n places of a row from a place on to another row's");
+        Run x = withRow();
+        due.is(x, x.copy(0, 0, 1, 0, 4), VALUE);
+        rowHolds(due, x, 1, 0, 1, 2, 3);
+        rowHolds(due, x, 0, 0, 1, 2, 3);
+        due.is(x, x.copy(1, 1, 2, 2, 2), VALUE);
+        rowHolds(due, x, 2, 3, 3, 1, 2);
+        due.is(x, x.copy(0, 0, 3, 3, 1), VALUE);
+        rowHolds(due, x, 3, 3, 3, 3, 0);
+        due.is(x, x.copy(3, 3, 0, 2, 1), VALUE);
+        rowHolds(due, x, 0, 0, 1, 0, 3);
+    }
+
+    private static void copyOfNoPlaces(Due due) {
+        due.test("10: Copies n places (none of them)");
+        Run x = withRow();
+        for (int at = 0; at <= 4; at++) {
+            due.is(x, x.copy(0, at, 1, 4 - at, 0), VALUE);
+            due.is(x, x.copy(0, at, 2, 4, 0), VALUE);
+            due.is(x, x.copy(0, 0, 3, at, 0), VALUE);
+        }
+        due.is(x, x.copy(0, 5, 1, 0, 0), INDEX);
+        due.is(x, x.copy(0, 0, 1, 5, 0), INDEX);
+        for (int row = 1; row < 4; row++) {
+            rowHolds(due, x, row, 3, 3, 3, 3);
+        }
     }
 
     private static void copyStopsAtMisfit(Due due) {
-        FamilyProbes x = withRow();
-        due.is("copy(0, 0, 3, 0, 4)", x.copy(0, 0, 3, 0, 4), STORE);
-        rowHolds(due, x, "a HOUND fitted", 3, 0, 3, 3, 3);
-        due.is("copy(0, 1, 2, 0, 2)", x.copy(0, 1, 2, 0, 2), VALUE);
-        due.is("copy(0, 0, 2, 0, 4)", x.copy(0, 0, 2, 0, 4), STORE);
-        rowHolds(due, x, "nothing fitted", 2, 1, 2, 3, 3);
-        x.store(0, 0, 2);
-        x.store(0, 1, 0);
-        due.is("copy(0, 0, 2, 0, 3)", x.copy(0, 0, 2, 0, 3), STORE);
-        rowHolds(due, x, "one fitted, none after it", 2, 2, 2, 3, 3);
+        due.test("10: place by place until one does not fit: STORE (what was copied stays)");
+        for (int misfit = 0; misfit <= 4; misfit++) {
+            Run x = new Run();
+            for (int place = 0; place < 4; place++) {
+                x.make(place, place == misfit ? Kind.HOUND : Kind.CAT, place);
+                x.store(0, place, place);
+            }
+            x.make(4, Kind.CAT, 9);
+            for (int place = 0; place < 4; place++) {
+                x.store(2, place, 4);
+            }
+            due.is(x, x.copy(0, 0, 2, 0, 4), misfit < 4 ? STORE : VALUE);
+            for (int place = 0; place < 4; place++) {
+                x.load(2, place, 7);
+                due.is(x, x.same(7, place < misfit ? place : 4), true);
+            }
+            rowHolds(due, x, 0, 0, 1, 2, 3);
+        }
+    }
+
+    private static void copyStopsAtFirstMisfit(Due due) {
+        due.test("10: until one does not fit the other row (only those that are copied count)");
+        Run x = withRow();
+        due.is(x, x.copy(0, 0, 3, 0, 1), VALUE);
+        due.is(x, x.copy(0, 0, 3, 2, 2), STORE);
+        rowHolds(due, x, 3, 0, 3, 0, 3);
+        due.is(x, x.copy(0, 1, 2, 0, 3), VALUE);
+        rowHolds(due, x, 2, 1, 2, 3, 3);
+        due.is(x, x.copy(0, 0, 2, 3, 1), STORE);
+        rowHolds(due, x, 2, 1, 2, 3, 3);
+        due.is(x, x.copy(2, 0, 3, 0, 1), STORE);
+        rowHolds(due, x, 3, 0, 3, 0, 3);
+    }
+
+    private static void copyOfNoneFits(Due due) {
+        due.test("10: one does not fit the other row (an empty place fits every row)");
+        for (int row = 0; row < 4; row++) {
+            Run x = Run.with(row == 3 ? Kind.HOUND : Kind.CAT, 1);
+            for (int place = 0; place < 4; place++) {
+                x.store(row, place, 0);
+            }
+            due.is(x, x.copy((row + 1) % 4, 0, row, 1, 2), VALUE);
+            rowHolds(due, x, row, 0, 6, 6, 0);
+        }
     }
 
     private static void copyWithinRow(Due due) {
-        FamilyProbes x = withRow();
-        due.is("copy(0, 0, 0, 1, 3)", x.copy(0, 0, 0, 1, 3), VALUE);
-        rowHolds(due, x, "up by one", 0, 0, 0, 1, 2);
-        x = withRow();
-        due.is("copy(0, 1, 0, 0, 3)", x.copy(0, 1, 0, 0, 3), VALUE);
-        rowHolds(due, x, "down by one", 0, 1, 2, 3, 3);
-        x = withRow();
-        due.is("copy(0, 0, 0, 0, 4)", x.copy(0, 0, 0, 0, 4), VALUE);
-        rowHolds(due, x, "onto itself", 0, 0, 1, 2, 3);
+        due.test("10: (Within one row as if by way of a third one.)");
+        for (int at = 0; at < 4; at++) {
+            for (int there = 0; there < 4; there++) {
+                for (int n = 0; n + Math.max(at, there) <= 4; n++) {
+                    Run x = withRow();
+                    due.is(x, x.copy(0, at, 0, there, n), VALUE);
+                    for (int place = 0; place < 4; place++) {
+                        boolean copied = place >= there && place < there + n;
+                        x.load(0, place, 7);
+                        due.is(x, x.same(7, copied ? at + place - there : place), true);
+                    }
+                }
+            }
+        }
     }
 
-    private static void copyInWrongCases(Due due) {
-        FamilyProbes x = withRow();
-        int[][] stretches = {
-            {-1, 0, 1}, {0, -1, 1}, {0, 0, -1}, {0, 0, 5}, {1, 0, 4}, {0, 1, 4}, {4, 0, 1},
-            {0, 4, 1}, {5, 0, 0}, {0, 5, 0}, {3, 0, 2}, {0, 3, 2}, {GREATEST, 0, 1},
-            {0, GREATEST, 1}, {1, 0, GREATEST}, {GREATEST, GREATEST, GREATEST}, {LEAST, 0, 1},
-            {0, LEAST, 1}, {0, 0, LEAST}, {LEAST, LEAST, LEAST}, {5, 0, -1}, {GREATEST, 0, 0}
-        };
-        for (int[] s : stretches) {
-            String told = ", at " + s[0] + ", there " + s[1] + ", n " + s[2];
-            due.is("to BASES" + told, x.copy(0, s[0], 1, s[1], s[2]), INDEX);
-            due.is("INDEX before STORE" + told, x.copy(0, s[0], 3, s[1], s[2]), INDEX);
-            due.is("within" + told, x.copy(0, s[0], 0, s[1], s[2]), INDEX);
+    private static void copyRefuses(Due due) {
+        due.test("10: REFUSED for rows out of range.");
+        Run x = withRow();
+        for (int row : Edge.beside(4)) {
+            due.is(x, x.copy(row, 0, 0, 0, 1), REFUSED);
+            due.is(x, x.copy(0, 0, row, 0, 1), REFUSED);
+            due.is(x, x.copy(row, 0, row, 0, 0), REFUSED);
+            due.is(x, x.copy(0, 0, row, 0, 9), REFUSED);
+            due.is(x, x.copy(row, -1, 0, 0, 1), REFUSED);
         }
-        for (int row : NO_ROWS) {
-            due.is("from row " + row, x.copy(row, 0, 0, 0, 1), REFUSED);
-            due.is("to row " + row, x.copy(0, 0, row, 0, 1), REFUSED);
-            due.is("REFUSED before INDEX, row " + row, x.copy(0, 0, row, 0, 9), REFUSED);
-        }
-        rowHolds(due, x, "nothing was copied", 0, 0, 1, 2, 3);
-        rowHolds(due, x, "nothing was copied", 1, 3, 3, 3, 3);
-        rowHolds(due, x, "nothing was copied", 3, 3, 3, 3, 3);
+        rowHolds(due, x, 0, 0, 1, 2, 3);
+        due.is(x, x.copy(3, 0, 0, 0, 1), VALUE);
+        due.is(x, x.copy(0, 0, 3, 0, 1), VALUE);
     }
 }
