@@ -205,7 +205,7 @@ final class FlowTest {
     }
 
     private static void secondCannotBeOpened(Due due) {
-        due.test("12, 2: the second one can't be opened (then 11 is noted, and it is never closed)");
+        due.test("12, 2: can't be opened (then 11 is noted, and it is never closed)");
         int[] values = {100, 100, 101, 101};
         for (int a = 1; a < 4; a += 2) {
             for (int b = 0; b < 4; b++) {
